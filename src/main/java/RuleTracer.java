@@ -190,7 +190,7 @@ public final class RuleTracer {
     private int rulesOn() {
         int on = 0;
         for (int k = 0; k < RULES; k++) {
-            on += rules[k].there && rules[k].on ? 1 : 0;
+            on += rules[k].on ? 1 : 0;
         }
         return on;
     }
@@ -238,7 +238,7 @@ public final class RuleTracer {
         }
 
         boolean isDoneAt(int firedSite, boolean firedExit) {
-            return there && on && site == firedSite && exit == firedExit;
+            return on && site == firedSite && exit == firedExit;
         }
     }
 

@@ -6,6 +6,7 @@ public final class CompileTest {
         wrongRuleNumber();
         wrongTextLeavesRuleAlone();
         rightTexts();
+        nothingIsLeftOfEarlierTexts();
         places();
         depths();
         everyCutIsWrongAtItsEnd();
@@ -73,6 +74,22 @@ public final class CompileTest {
         Check.same("of the latest that couldn't be read", x.count(0), 1);
         Check.bad("an empty text", () -> x.compile(0));
         Check.same("its PLACE is its length", x.count(0), 0);
+    }
+
+    private static void nothingIsLeftOfEarlierTexts() {
+        RuleTracer x = Check.with("x7/a/{u=1;v=1:a}");
+        x.fire(7, true, 0, 1.0, 0.0, 0.0);
+        Check.bad("a text with a CONDITION, wrong behind it", () -> Check.compile(x, 1, "x7/1:a/{u=2;v=3;"));
+        for (int n = 0; n < 3; n++) {
+            Check.same("without a CONDITION", Check.compile(x, 0, "e0{w=w+1}"), 1);
+            Check.same("off", x.count(3), 0);
+            Check.same("no MEETINGS", x.count(30), 0);
+            x.turn(0, true);
+            Check.same("it's MET", x.fire(0, false, 0, 0.0, 0.0, 0.0), 1);
+            Check.same("no FAILURES", x.count(20), 0);
+            Check.same("w", x.variable(2, 0), n + 1.0);
+        }
+        Check.same("u", x.variable(0, 0), 1.0);
     }
 
     private static void rightTexts() {

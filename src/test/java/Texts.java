@@ -23,6 +23,9 @@ final class Texts {
     String spoiled() {
         String text = right();
         int i = random.nextInt(text.length());
+        if (random.nextInt(4) == 0) {
+            return deeper(text, i);
+        }
         switch (random.nextInt(5)) {
             case 0: return text.substring(0, i);
             case 1: return text.substring(0, i) + text.substring(i + 1);
@@ -30,6 +33,15 @@ final class Texts {
             case 3: return cut(text.substring(0, i) + anything() + text.substring(i));
             default: return cut(text + anything());
         }
+    }
+
+    /** One DEPTH more from the first ( or - behind i on, so that a sixth comes up often. */
+    private String deeper(String text, int i) {
+        int from = i;
+        while (from < text.length() && text.charAt(from) != '(' && text.charAt(from) != '-') {
+            from++;
+        }
+        return cut(text.substring(0, from) + (random.nextBoolean() ? '(' : '-') + text.substring(from));
     }
 
     private static String cut(String text) {
@@ -45,6 +57,7 @@ final class Texts {
         Grammar grammar = new Grammar();
         StringBuilder text = new StringBuilder();
         int closeFrom = random.nextInt(44);
+        boolean deep = random.nextInt(3) == 0;
         while (!grammar.isDone() && text.length() <= 48) {
             String may = grammar.following();
             char c = may.charAt(random.nextInt(may.length()));
@@ -54,6 +67,8 @@ final class Texts {
                 c = random.nextInt(4) == 0 ? c : '0';
             } else if (text.length() >= closeFrom) {
                 c = closer(may, c);
+            } else if (deep && may.endsWith("(-") && random.nextInt(3) != 0) {
+                c = random.nextBoolean() ? '(' : '-';
             }
             text.append(c);
             grammar.go(c);
