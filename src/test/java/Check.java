@@ -4,6 +4,9 @@ import java.util.NoSuchElementException;
 final class Check {
     private static int wrong = 0;
     private static int asked = 0;
+    private static String sentence = "";
+    private static int sentences = 0;
+    private static int askedBefore = 0;
 
     private Check() {
     }
@@ -11,6 +14,20 @@ final class Check {
     /** A call of the face; what it answers counts only where it must throw nothing. */
     interface Call {
         void make();
+    }
+
+    /** Names the document's words that the checks from here on belong to; none may go without a check. */
+    static void sentence(String words) {
+        needChecks();
+        sentence = words;
+        sentences++;
+        askedBefore = asked;
+    }
+
+    private static void needChecks() {
+        if (!sentence.isEmpty() && asked == askedBefore) {
+            tell("no check was made");
+        }
     }
 
     static void same(String what, long got, long due) {
@@ -70,13 +87,15 @@ final class Check {
     private static void tell(String line) {
         wrong++;
         if (wrong <= 50) {
-            System.out.println(line);
+            System.out.println(sentence.isEmpty() ? line : "\"" + sentence + "\": " + line);
         }
     }
 
     /** Ends the test: exit code 1 if an answer was not as due, or if none was asked for. */
     static void finish(String test) {
-        System.out.println(test + ": " + asked + " checks, " + wrong + " wrong");
+        needChecks();
+        String of = sentences == 0 ? "" : " of " + sentences + " sentences";
+        System.out.println(test + ": " + asked + " checks" + of + ", " + wrong + " wrong");
         if (wrong != 0 || asked == 0) {
             System.exit(1);
         }
@@ -106,6 +125,16 @@ final class Check {
     static void put(RuleTracer x, int k, String text) {
         compile(x, k, text);
         x.turn(k, true);
+    }
+
+    /** Where a, b, c, the THREAD and the SITE don't matter. */
+    static int fire(RuleTracer x) {
+        return x.fire(0, false, 0, 0.0, 0.0, 0.0);
+    }
+
+    /** As fire, where only a matters. */
+    static int fire(RuleTracer x, double a) {
+        return x.fire(0, false, 0, a, 0.0, 0.0);
     }
 
     /** A new object with this one RULE 0, on. */
