@@ -14,6 +14,7 @@ public final class FiringBoundsTest {
         conditionElse();
         withoutCondition();
         settingForTheThread();
+        eachActionDoesItsOwn();
         goingOnZero();
         goingOnElse();
         failureEndsItsRule();
@@ -203,6 +204,27 @@ public final class FiringBoundsTest {
                     }
                 }
             }
+        }
+    }
+
+    /** Of a GLOBAL, a THREAD's, a KEY and a RECORD, each ACTION changes one at most. */
+    private static void eachActionDoesItsOwn() {
+        Check.sentence("its ACTIONS are done in order");
+        String[] actions = {"v=4", "y=4", "@B[1]=4", "!4", "?4", "?0"};
+        for (int n = 0; n < actions.length; n++) {
+            RuleTracer x = Check.with("e0{" + actions[n] + "}");
+            Check.same(actions[n], x.fire(0, false, 2, 7.0, 7.0, 7.0), 1);
+            for (int number = 0; number < 6; number++) {
+                boolean set = n == 0 && number == 1 || n == 1 && number == 4;
+                Check.same(actions[n] + ": variable " + number, x.variable(number, 2), set ? 4.0 : 0.0);
+            }
+            Check.same(actions[n] + ": KEYS of A", x.count(8), 0);
+            Check.same(actions[n] + ": KEYS of B", x.count(9), n == 2 ? 1 : 0);
+            Check.same(actions[n] + ": KEYS of C", x.count(10), 0);
+            Check.same(actions[n] + ": RECORDS", x.count(4), n == 3 ? 1 : 0);
+            Check.same(actions[n] + ": LOST", x.count(5), 0);
+            Check.same(actions[n] + ": DROPPED", x.count(6), 0);
+            Check.same(actions[n] + ": FAILURES", x.count(20), 0);
         }
     }
 

@@ -11,6 +11,8 @@ public final class GathererBoundsTest {
         fullStillTakesItsOwn();
         droppedEndsNothing();
         droppedFromEach();
+        whatFailsIsNotDropped();
+        threeGatherers();
         oneByOne();
         sumAboveTheBounds();
         sumBelowTheBounds();
@@ -137,6 +139,45 @@ public final class GathererBoundsTest {
         Check.compile(x, 0, "e0{!1}");
         Check.same("another RULE in its place changes nothing", x.count(6), 6);
         Check.same("nor the KEYS", x.count(8), 4);
+    }
+
+    private static void whatFailsIsNotDropped() {
+        Check.sentence("the other E is the value (worked out behind)");
+        RuleTracer x = gathering(0);
+        for (int key = 0; key < 4; key++) {
+            gather(x, key, 1.0);
+        }
+        Check.put(x, 0, "e0{@A[9:a]=1:b;u=u+1}");
+        gather(x, 0.0, 1.0);
+        gather(x, 1.0, 0.0);
+        gather(x, 0.0, 0.0);
+        Check.same("three FAILURES", x.count(20), 3);
+        Check.same("none is DROPPED", x.count(6), 0);
+        Check.same("the RULE ended each time", x.variable(0, 0), 4.0);
+        gather(x, 1.0, 1.0);
+        Check.same("where none fails it's DROPPED", x.count(6), 1);
+        Check.same("and no FAILURE", x.count(20), 3);
+        RuleTracer y = Check.with("e0{@C[1<2]=a>b}");
+        gather(y, 5.0, 4.0);
+        Check.same("both are any E", y.gathered(2, 1, 0), 1.0);
+    }
+
+    private static void threeGatherers() {
+        Check.sentence("GATHERERS A, B, C");
+        for (int g = 0; g < 3; g++) {
+            RuleTracer x = gathering(g);
+            gather(x, 6.0, 2.5);
+            for (int of = 0; of < 3; of++) {
+                int asked = of;
+                Check.same("KEYS", x.count(KEYS_OF[of]), of == g ? 1 : 0);
+                if (of == g) {
+                    Check.same("its own", x.gathered(of, 6, 0), 2.5);
+                } else {
+                    Check.missing("another's sum", () -> x.gathered(asked, 6, 0));
+                    Check.missing("how many of another's", () -> x.many(asked, 6, 8));
+                }
+            }
+        }
     }
 
     private static void oneByOne() {
@@ -381,7 +422,7 @@ public final class GathererBoundsTest {
     }
 
     private static void manyNumbers() {
-        Check.sentence("how many values in BIN i (0 .. 7), in all (8)");
+        Check.sentence("Of GATHERER g for the KEY: how many values in BIN i (0 .. 7), in all (8)");
         RuleTracer x = three();
         int[][] due = {{0, 1, 0, 0, 0, 0, 0, 0, 1}, {0, 0, 1, 1, 0, 0, 0, 0, 2}, {0, 0, 0, 2, 1, 0, 0, 0, 3}};
         for (int g = -2; g <= 4; g++) {

@@ -6,6 +6,7 @@ public final class LastCallTest {
         time();
         variables();
         counters();
+        failuresLeaveNothing();
         gathered();
         records();
         dropped();
@@ -52,6 +53,24 @@ public final class LastCallTest {
         Check.same("FAILURES", x.count(20), CALLS - 3 - calls);
         Check.same("MEETINGS", x.count(30), CALLS - 3 - calls);
         Check.same("FIRINGS", x.count(7), CALLS - 3 - calls);
+    }
+
+    /** Each FAILURE comes while much is still to be worked out with what stands before it. */
+    private static void failuresLeaveNothing() {
+        Check.sentence("A FAILURE is all of this RULE, too, and is counted for it");
+        String text = "e0{u=1+(2+(3+(4+(5:a))));@A[9]=1:a}";
+        String other = "x1{!1+2*(3-4*(5-6*(7-8*(9-10))))}";
+        RuleTracer x = Check.with(text);
+        Check.put(x, 1, other);
+        int calls = callsFor(text) + callsFor(other);
+        for (int n = calls; n < CALLS - 5; n++) {
+            Check.same("MET", Check.fire(x, 0.0), 1);
+        }
+        Check.same("FAILURES", x.count(20), CALLS - 5 - calls);
+        Check.same("KEYS", x.count(8), 0);
+        Check.same("u", x.variable(0, 0), 0.0);
+        Check.same("another RULE is MET", x.fire(1, true, 0, 0.0, 0.0, 0.0), 1);
+        Check.same("and worked out as ever", x.record(), 1.0 + 2.0 * (3.0 - 4.0 * (5.0 - 6.0 * 15.0)));
     }
 
     private static void gathered() {

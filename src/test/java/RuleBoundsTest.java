@@ -15,6 +15,8 @@ public final class RuleBoundsTest {
         inPlaceOfWhatThatWas();
         offWhenCompiled();
         noFailuresAndNoMeetings();
+        nothingOfTheUnreadableStays();
+        nothingOfEarlierOnesStays();
         answersActions();
         turnWrongRule();
         turnNone();
@@ -177,6 +179,50 @@ public final class RuleBoundsTest {
             Check.fire(x);
             Check.same("counted anew", x.count(20 + k), 1);
             Check.same("MEETINGS too", x.count(30 + k), 1);
+        }
+    }
+
+    private static void nothingOfTheUnreadableStays() {
+        Check.sentence("empty then also if it's bad");
+        for (String text : UNREADABLE) {
+            RuleTracer x = new RuleTracer();
+            for (int n = 1; n <= 3; n++) {
+                Check.bad(text, () -> Check.compile(x, 0, text));
+                Check.same("a right one", Check.compile(x, 0, "x2{w=w+1}"), 1);
+                x.turn(0, true);
+                Check.same("not for the entry of 0", Check.fire(x), 0);
+                Check.same("MET without a CONDITION", x.fire(2, true, 0, 0.0, 0.0, 0.0), 1);
+                Check.same("only its own ACTION", x.variable(2, 0), (double) n);
+                Check.same("u", x.variable(0, 0), 0.0);
+                Check.same("no RECORDS", x.count(4), 0);
+                Check.same("no FAILURES", x.count(20), 0);
+            }
+        }
+    }
+
+    /** Each RULE in turn gets texts of all kinds, more than once, so that whatever is used again shows. */
+    private static void nothingOfEarlierOnesStays() {
+        Check.sentence("in place of what that was, off, with no FAILURES and no MEETINGS");
+        String[] texts = {"e0/a/{u=u+1;v=1:0}", "e0{u=u+1}", "e0/a-1/{u=u+1;u=u+1}", "e0{u=u+1;?a;u=u+1}", "e0{v=1:a}"};
+        double[] added = {1.0, 1.0, 0.0, 2.0, 0.0};
+        int[] met = {1, 1, 0, 1, 1};
+        int[] failed = {1, 0, 0, 0, 0};
+        for (int k = 0; k < 6; k++) {
+            RuleTracer x = new RuleTracer();
+            double due = 0.0;
+            for (int n = 0; n < 3 * texts.length; n++) {
+                int kind = n * 2 % texts.length;
+                Check.compile(x, k, texts[kind]);
+                Check.same("no FAILURES", x.count(20 + k), 0);
+                Check.same("no MEETINGS", x.count(30 + k), 0);
+                Check.same("off", Check.fire(x, 1.0), 0);
+                Check.same("then on", x.turn(k, true), 1);
+                Check.same("MET: " + texts[kind], Check.fire(x, 1.0), met[kind]);
+                due += added[kind];
+                Check.same("u behind " + texts[kind], x.variable(0, 0), due);
+                Check.same("FAILURES of " + texts[kind], x.count(20 + k), failed[kind]);
+                Check.same("MEETINGS of " + texts[kind], x.count(30 + k), met[kind]);
+            }
         }
     }
 

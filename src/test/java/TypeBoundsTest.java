@@ -10,6 +10,7 @@ public final class TypeBoundsTest {
         notACharacter();
         noneIsAddedIfOneIsBad();
         moreThanFortyEight();
+        zerosTakeNoRoom();
         noneIsAddedIfTooMany();
         answersItsLength();
         aFullTextIsRead();
@@ -120,6 +121,26 @@ public final class TypeBoundsTest {
         Check.same("eight in the highest places", x.type(0x6161_6161_6161_6161L), 48);
         Check.tooLong("one in the highest place", () -> x.type(at('a', 0)));
         Check.tooLong("one in the lowest place", () -> x.type(at('a', 7)));
+    }
+
+    /** In all 256 ways in which bytes may be 0, where there is just room, and where one place is wanting. */
+    private static void zerosTakeNoRoom() {
+        Check.sentence("more than 48 in all: IllegalStateException");
+        for (char c : new char[] {'!', 'a', '~'}) {
+            for (int mask = 1; mask < 256; mask++) {
+                long eight = 0;
+                for (int place = 0; place < 8; place++) {
+                    eight |= at((mask >> place & 1) * c, place);
+                }
+                long some = eight;
+                RuleTracer x = new RuleTracer();
+                Check.type(x, "a".repeat(49 - Integer.bitCount(mask)));
+                Check.tooLong("49 with mask " + mask, () -> x.type(some));
+                RuleTracer y = new RuleTracer();
+                Check.type(y, "a".repeat(48 - Integer.bitCount(mask)));
+                Check.same("48 with mask " + mask, y.type(eight), 48);
+            }
+        }
     }
 
     /** Not even those that there is room for. */
