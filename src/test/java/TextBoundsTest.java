@@ -23,6 +23,7 @@ public final class TextBoundsTest {
         fourthDigits();
         sixthDepths();
         justTheEnd();
+        justTheEndOfAFullText();
         behindTheEnd();
         latestPlace();
         mostActions();
@@ -288,6 +289,27 @@ public final class TextBoundsTest {
         wrong("e0{!" + "1+".repeat(22), 48);
         wrong("e0{!" + "1+".repeat(21) + "1", 47);
         right("e0{!" + "1+".repeat(21) + "1}");
+    }
+
+    /** A full text has no room for the end that it lacks; that is no fault of a character in it. */
+    private static void justTheEndOfAFullText() {
+        Check.sentence("or its length, if just the end is wrong");
+        String sum = "e0{!" + "1+".repeat(19);
+        String[] ends = {"123+45", "(((((a", "-----a", "1-(-(-", "1<2+3-", "1;@A[1", "1;@B[2", "1;u=1=", "1;?a*b", "1;!(b)"};
+        for (String end : ends) {
+            String text = sum + end;
+            wrong(text, 48);
+            wrong(text.substring(0, 47), 47);
+            wrong(text.substring(0, 47) + "#", 47);
+        }
+        wrong(sum + "(-(-(-", 47);
+        String actions = "x7/a/{" + "!1;".repeat(14);
+        wrong(actions, 48);
+        wrong(actions.substring(0, 47), 47);
+        right(actions.substring(0, 47) + "}");
+        wrong(actions.substring(0, 47) + "/", 47);
+        wrong("e3/" + "a*".repeat(22) + "a", 48);
+        wrong("e3/" + "a*".repeat(22) + "/", 47);
     }
 
     private static void behindTheEnd() {

@@ -12,6 +12,7 @@ public final class TypeBoundsTest {
         moreThanFortyEight();
         zerosTakeNoRoom();
         noneIsAddedIfTooMany();
+        badComesFirst();
         answersItsLength();
         aFullTextIsRead();
         Check.finish("TypeBoundsTest");
@@ -150,6 +151,24 @@ public final class TypeBoundsTest {
             RuleTracer x = new RuleTracer();
             Check.type(x, LONGEST.substring(0, length));
             Check.tooLong("eight behind " + length, () -> x.type(0x6161_6161_6161_6161L));
+            Check.same("the text's length", x.count(1), length);
+            Check.type(x, LONGEST.substring(length));
+            Check.same("the text goes on where it was", x.compile(0), 8);
+        }
+    }
+
+    /** Where both hold, the sentence's order decides: on whichever side of the 48th character the bad one stands. */
+    private static void badComesFirst() {
+        Check.sentence("One not 33 .. 126: bad; more than 48 in all: IllegalStateException; then none is added");
+        for (int length = 40; length <= 48; length++) {
+            RuleTracer x = new RuleTracer();
+            Check.type(x, LONGEST.substring(0, length));
+            for (int place = 0; place < 8; place++) {
+                for (int value : new int[] {1, 32, 127, 128, 255}) {
+                    long eight = 0x6161_6161_6161_6161L & ~at(255, place) | at(value, place);
+                    Check.bad(value + " at " + place + " behind " + length, () -> x.type(eight));
+                }
+            }
             Check.same("the text's length", x.count(1), length);
             Check.type(x, LONGEST.substring(length));
             Check.same("the text goes on where it was", x.compile(0), 8);

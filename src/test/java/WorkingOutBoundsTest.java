@@ -8,6 +8,7 @@ public final class WorkingOutBoundsTest {
     public static void main(String[] args) {
         comparisons();
         leftToRight();
+        opposites();
         division();
         divisionByZero();
         divisionBySmallest();
@@ -83,6 +84,32 @@ public final class WorkingOutBoundsTest {
         gives("-a-b", 2.0, 3.0, -5.0);
         gives("a<b+b", 4.0, 3.0, 1.0);
         gives("a+b<b", 1.0, 3.0, 0.0);
+    }
+
+    /** - of a 0.0 is the double that - gives, -0.0, and it is compared and divided by as 0.0. */
+    private static void opposites() {
+        Check.sentence("WORKING OUT an E, in doubles, as written");
+        gives("-0", NONE, NONE, -0.0);
+        gives("--0", NONE, NONE, 0.0);
+        gives("---0", NONE, NONE, -0.0);
+        gives("-a", 0.0, NONE, -0.0);
+        gives("-a", -0.0, NONE, 0.0);
+        gives("-w", NONE, NONE, -0.0);
+        gives("-t", NONE, NONE, -0.0);
+        gives("-k", NONE, NONE, -0.0);
+        gives("-(a-a)", 3.0, NONE, -0.0);
+        gives("-(1<0)", NONE, NONE, -0.0);
+        gives("-0-0", NONE, NONE, -0.0);
+        gives("-0+0", NONE, NONE, 0.0);
+        gives("0-0", NONE, NONE, 0.0);
+        gives("-0*a", 5.0, NONE, -0.0);
+        gives("0*-a", 5.0, NONE, -0.0);
+        gives("-0:a", 5.0, NONE, -0.0);
+        gives("-0=0", NONE, NONE, 1.0);
+        gives("-0<0", NONE, NONE, 0.0);
+        fails("1:-0", NONE, NONE);
+        gives("-a", 7.5, NONE, -7.5);
+        gives("-u", NONE, NONE, -BOUND);
     }
 
     /** Chosen so that another order gives something else. */
